@@ -71,8 +71,7 @@ public final class AgingPortrait {
 
     private static final String ORDER_KINDS = "paint scrape copy touch";
     private static final String PAINT_KINDS = "likest cheapest by";
-    private static final int PAINT_LIKEST = 0;
-    private static final int PAINT_CHEAPEST = 1;
+    // the first two ways to paint are the first two ways to plan: LIKEST, CHEAPEST
     private static final int PAINT_BY = 2;
     private static final int SCRAPE = 3;
     private static final int COPY = 4;
@@ -853,7 +852,7 @@ public final class AgingPortrait {
     }
 
     private static int nearest(int value, int lowest, int highest) {
-        return Math.max(lowest, Math.min(highest, value));
+        return value < lowest ? lowest : value > highest ? highest : value;
     }
 
     /** All that an IMAGE keeps. */
@@ -913,7 +912,8 @@ public final class AgingPortrait {
         }
 
         int ageIn(int year) {
-            return nearest(terms[AGE] + (terms[PACE] - 2) * year, 0, OLDEST);
+            int age = terms[AGE] + (terms[PACE] - 2) * year;
+            return age < 0 ? 0 : age > OLDEST ? OLDEST : age;
         }
 
         boolean rests(int painter, int year) {
@@ -1164,28 +1164,15 @@ public final class AgingPortrait {
             if (isSign('(')) {
                 went = opens(brackets) && readTest(brackets + 1) && takes(')');
             } else {
-                went = readSum(brackets) && readSides(brackets);
+                went = readSum(brackets);
+                int deed = isSign('<') ? DO_BELOW : isSign('>') ? DO_ABOVE : DO_EQUAL;
+                went = went && (takes('<') || takes('>') || takes('=')) && readSum(brackets);
+                into.add(deed, 0);
             }
             if (turned) {
                 into.add(DO_NOT, 0);
             }
             return went;
-        }
-
-        private boolean readSides(int brackets) {
-            int deed = NONE;
-            if (takes('<')) {
-                deed = DO_BELOW;
-            } else if (takes('>')) {
-                deed = DO_ABOVE;
-            } else if (takes('=')) {
-                deed = DO_EQUAL;
-            }
-            if (deed == NONE || !readSum(brackets)) {
-                return false;
-            }
-            into.add(deed, 0);
-            return true;
         }
 
         private boolean readSum(int brackets) {

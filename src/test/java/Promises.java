@@ -1109,6 +1109,8 @@ public final class Promises {
             plan(x, 0, 3, 0, 199, 3, 0, 1, 1);
             x.terms(3, 83);
             plan(x, 2, 3, 0, 199, 2, 1, 0, 1);
+            x.terms(3, 50);
+            plan(x, 2, 1, 36, 50, 1, 1);
             x.terms(3, 49);
             plan(x, 2, 1, NONE, NONE, 0, NONE);
             plan(x, 2, 0, 48, 0, 1);
@@ -1169,6 +1171,13 @@ public final class Promises {
             due("undoing(-2)", x.undoing(-2), NONE);
             x.first(7, 9);
             due("not all cells", x.undoing(NONE), 0);
+            x.first(7, 0);
+            for (int cell = 0; cell < 12; cell += 11) {
+                x.first(cell, 9);
+                due("not cell " + cell, x.undoing(NONE), 0);
+                x.first(cell, 0);
+            }
+            due("again", x.undoing(NONE), 7);
             AgingPortrait y = fresh();
             y.painter(9, 0);
             row(y, 2, 2, 2, 2, 2, 2, 2, 2, 2, 2, 2, 2);
@@ -1463,6 +1472,10 @@ public final class Promises {
             refused(x, "claim(1, 0, 151)", x.claim(1, 0, 151), -1);
             due("dead", x.born(0, 2), 150);
             due("copy", x.born(0, 3), NONE);
+            AgingPortrait y = fresh();
+            y.claimant(NONE, 0, 20, NONE);
+            taken(y, "claim(0, 0, 1)", y.claim(0, 0, 1), 20);
+            refused(y, "claim(0, 0, 0)", y.claim(0, 0, 0), -1);
         }
 
         static void standings() {
@@ -1781,6 +1794,17 @@ public final class Promises {
             y.back(0);
             due("fault is not kept", y.fault(), NONE);
             due("laws are", y.count(1), 0);
+            y.image(0);
+            lawIn(y, "looks 7");
+            y.image(1);
+            y.back(0);
+            due("not in force", y.looks(0, 0, 0), 2);
+            lawIn(y, "looks 4");
+            y.back(1);
+            due("that law, not the later one", y.looks(0, 0, 0), 7);
+            y.back(0);
+            lawIn(y, "looks 3");
+            due("another", y.looks(0, 0, 0), 3);
         }
 
         static void counts() {
