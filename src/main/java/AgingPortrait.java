@@ -138,6 +138,7 @@ public final class AgingPortrait {
     public AgingPortrait() {
         State state = new State();
         int[] bytes = new int[MOST_BYTES];
+        Text text = new Text(MOST_CLAUSES, MOST_STEPS);
         Judge itsJudge = new Judge(state);
         Studio itsStudio = new Studio(state, itsJudge);
         Planner itsPlanner = new Planner(state, itsJudge);
@@ -146,8 +147,8 @@ public final class AgingPortrait {
         images[0] = new State();
         images[1] = new State();
         tape = bytes;
-        reader = new Reader(bytes);
-        read = new Text(MOST_CLAUSES, MOST_STEPS);
+        read = text;
+        reader = new Reader(bytes, text);
         judge = itsJudge;
         studio = itsStudio;
         planner = itsPlanner;
@@ -289,7 +290,7 @@ public final class AgingPortrait {
         if (now.laws >= MOST_LAWS) {
             return refuse(NO_ROOM);
         }
-        faultPlace = reader.faultIn(length, false, read);
+        faultPlace = reader.faultIn(length, false);
         if (faultPlace != NONE) {
             return refuse(BAD_TEXT);
         }
@@ -302,7 +303,7 @@ public final class AgingPortrait {
         int length = tapeLength;
         tapeLength = 0;
         stoppedAt = NONE;
-        faultPlace = reader.faultIn(length, true, read);
+        faultPlace = reader.faultIn(length, true);
         if (faultPlace != NONE) {
             return refuse(BAD_TEXT);
         }
@@ -1023,23 +1024,23 @@ public final class AgingPortrait {
 
         private final int[] tape;
         private int length;
+        private final Text into;
         private boolean isOrders;
-        private Text into;
         private int kind;
         private int start;
         private int stop;
         private int number;
         private int parts;
 
-        Reader(int[] bytes) {
+        Reader(int[] bytes, Text text) {
             tape = bytes;
+            into = text;
         }
 
         /** NONE, if the first bytes of the tape are a text, else where it can't go on. */
-        int faultIn(int bytes, boolean asOrders, Text text) {
+        int faultIn(int bytes, boolean asOrders) {
             length = Math.min(bytes, tape.length);
             isOrders = asOrders;
-            into = text;
             into.clear();
             stop = 0;
             parts = 0;
