@@ -605,13 +605,14 @@ public final class AgingPortrait {
         if (!inside(what, 2)) {
             return refuse(BAD_NUMBER);
         }
-        if (what == 0 ? value < 1 || value > LATEST_DEATH : !canBeCopy(value)) {
+        if (what == 0 ? value > LATEST_DEATH : !canBeCopy(value)) {
             return refuse(BAD_NUMBER);
         }
         if (!now.hasClaimant(claimant)) {
             return refuse(NO_SUCH);
         }
         int at = claimant * TRAITS;
+        // what is too low is known by BORN alone, so only once the CLAIMANT is known
         if (what == 0 && value <= now.traits[at + 1]) {
             return refuse(BAD_NUMBER);
         }
@@ -698,10 +699,7 @@ public final class AgingPortrait {
         if (isCell(cell)) {
             return latest.picture[cell];
         }
-        if (cell >= 100 && now.hasPainter(cell - 100)) {
-            return latest.painted[cell - 100];
-        }
-        return NONE;
+        return cell >= 100 ? latest.yearsOf(cell - 100) : NONE;
     }
 
     public int image(int k) {
@@ -2258,8 +2256,10 @@ public final class AgingPortrait {
         private final State now;
         private final Judge judge;
         private int seed;
+        // those there were when it was made: later ones are not in it
+        private int painters;
+        private final int[] painted = new int[MOST_PAINTERS];
         final int[] picture = new int[CELLS];
-        final int[] painted = new int[MOST_PAINTERS];
         int unlikeInTheEnd;
         boolean passed;
 
@@ -2270,13 +2270,14 @@ public final class AgingPortrait {
 
         void pass(int from, int n) {
             seed = from;
+            painters = now.painters;
             passed = true;
             System.arraycopy(now.tones, now.years * CELLS, picture, 0, CELLS);
             for (int painter = 0; painter < MOST_PAINTERS; painter++) {
                 painted[painter] = 0;
             }
             int last = now.years + n;
-            for (int year = now.years + 1; year <= last && now.painters > 0; year++) {
+            for (int year = now.years + 1; year <= last && painters > 0; year++) {
                 paintOne(year);
             }
             unlikeInTheEnd = 0;
@@ -2285,8 +2286,12 @@ public final class AgingPortrait {
             }
         }
 
+        int yearsOf(int painter) {
+            return inside(painter, painters) ? painted[painter] : NONE;
+        }
+
         private void paintOne(int year) {
-            int painter = draw(now.painters);
+            int painter = draw(painters);
             painted[painter]++;
             for (int cell = 0; cell < CELLS; cell++) {
                 int aim = judge.looksOf(cell, year);

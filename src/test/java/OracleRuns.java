@@ -1893,7 +1893,7 @@ public final class OracleRuns {
         }
 
         int claim(int claimant, int what, int value) {
-            if (!in(what, 0, 1) || !in(value, what == 0 ? 1 : -1, what == 0 ? 150 : 5)) {
+            if (!in(what, 0, 1) || !in(value, what == 0 ? Integer.MIN_VALUE : -1, what == 0 ? 150 : 5)) {
                 return no(-1);
             }
             if (!has(claimant, now.claimants)) {
@@ -1993,7 +1993,7 @@ public final class OracleRuns {
             }
             long[] s = {seed};
             int[] picture = now.seen().clone();
-            drawnBy = new int[5];
+            drawnBy = new int[now.painters.size()];
             for (int year = now.years() + 1; year <= now.years() + n; year++) {
                 if (now.painters.isEmpty()) {
                     continue;
@@ -2023,7 +2023,7 @@ public final class OracleRuns {
             if (drawn == null) {
                 return -1;
             }
-            return in(cell, 0, 11) ? drawn[cell] : has(cell - 100, now.painters) ? drawnBy[cell - 100] : -1;
+            return in(cell, 0, 11) ? drawn[cell] : in(cell, 100, 99 + drawnBy.length) ? drawnBy[cell - 100] : -1;
         }
 
         int image(int k) {

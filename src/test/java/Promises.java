@@ -1470,6 +1470,10 @@ public final class Promises {
             refused(x, "claim(-1, 1, 5)", x.claim(-1, 1, 5), -2);
             refused(x, "claim(1, 1, 6)", x.claim(1, 1, 6), -1);
             refused(x, "claim(1, 0, 151)", x.claim(1, 0, 151), -1);
+            refused(x, "too low, but whose", x.claim(1, 0, 0), -2);
+            refused(x, "too low, but whose", x.claim(-1, 0, Integer.MIN_VALUE), -2);
+            refused(x, "lowest", x.claim(0, 0, Integer.MIN_VALUE), -1);
+            refused(x, "what first", x.claim(1, 2, 0), -1);
             due("dead", x.born(0, 2), 150);
             due("copy", x.born(0, 3), NONE);
             AgingPortrait y = fresh();
@@ -1690,6 +1694,14 @@ public final class Promises {
             on(54);
             due("none is painted", z.drawn(0), 0);
             due("drawn(100)", z.drawn(100), NONE);
+            for (int painter = 0; painter < 5; painter++) {
+                z.painter(1, 0);
+                due("told later", z.drawn(100 + painter), NONE);
+            }
+            z.century(3, 0);
+            due("told ahead of it", z.drawn(104), 0);
+            due("no sixth", z.drawn(105), NONE);
+            due("far beyond", z.drawn(Integer.MAX_VALUE), NONE);
         }
 
         /** Unlike 0 all over behind one year from a painted first one, with the seed 1000000. */
@@ -1737,7 +1749,7 @@ public final class Promises {
             x.copy();
             x.claim(0, 0, 99);
             x.claimant(NONE, 1, 9, NONE);
-            x.century(5, 3);
+            x.century(6, 3);
             row(x, 1, 2, 99);
             run(x, "copy; copy; scrape");
             tell(x, "abc");
@@ -1764,7 +1776,12 @@ public final class Promises {
             due("flakes stay", x.flakes(), 1);
             due("where orders stopped stays", x.stopped(), 2);
             due("the century stays", x.drawn(100), 3 - drawn);
-            due("of a painter gone", x.drawn(101), NONE);
+            due("of a painter gone", x.drawn(101), drawn);
+            x.painter(9, 9);
+            due("of one told in his place", x.drawn(101), drawn);
+            x.century(6, 3);
+            x.back(1);
+            due("of the latest century", x.drawn(100) + x.drawn(101), 3);
             x.paint(0);
             taken(x, "back(1) again", x.back(1), 0);
             due("images stay", x.touch(0, 0, 2), 2);
