@@ -605,14 +605,14 @@ public final class AgingPortrait {
         if (!inside(what, 2)) {
             return refuse(BAD_NUMBER);
         }
-        if (what == 0 ? value > LATEST_DEATH : !canBeCopy(value)) {
+        if (what == 0 ? !inside(value, LATEST_DEATH + 1) : !canBeCopy(value)) {
             return refuse(BAD_NUMBER);
         }
         if (!now.hasClaimant(claimant)) {
             return refuse(NO_SUCH);
         }
         int at = claimant * TRAITS;
-        // what is too low is known by BORN alone, so only once the CLAIMANT is known
+        // which YEAR is too early is known by BORN alone, so only once the CLAIMANT is known
         if (what == 0 && value <= now.traits[at + 1]) {
             return refuse(BAD_NUMBER);
         }

@@ -272,7 +272,7 @@ public final class OracleRuns {
             } else {
                 int a = some(y.now.claimants.size());
                 int b = num(0, 1);
-                int c = b == 0 ? num(1, 150) : num(-1, 5);
+                int c = b == 0 ? num(draws.once(2) ? -1 : 1, 150) : num(-1, 5);
                 same("claim(" + a + ", " + b + ", " + c + ")", x.claim(a, b, c), y.claim(a, b, c));
             }
         }
@@ -1893,7 +1893,7 @@ public final class OracleRuns {
         }
 
         int claim(int claimant, int what, int value) {
-            if (!in(what, 0, 1) || !in(value, what == 0 ? Integer.MIN_VALUE : -1, what == 0 ? 150 : 5)) {
+            if (!in(what, 0, 1) || !in(value, what == 0 ? 0 : -1, what == 0 ? 150 : 5)) {
                 return no(-1);
             }
             if (!has(claimant, now.claimants)) {

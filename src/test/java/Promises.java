@@ -1470,8 +1470,9 @@ public final class Promises {
             refused(x, "claim(-1, 1, 5)", x.claim(-1, 1, 5), -2);
             refused(x, "claim(1, 1, 6)", x.claim(1, 1, 6), -1);
             refused(x, "claim(1, 0, 151)", x.claim(1, 0, 151), -1);
-            refused(x, "too low, but whose", x.claim(1, 0, 0), -2);
-            refused(x, "too low, but whose", x.claim(-1, 0, Integer.MIN_VALUE), -2);
+            refused(x, "too early, but for whom", x.claim(1, 0, 0), -2);
+            refused(x, "no year, whoever it is", x.claim(1, 0, -1), -1);
+            refused(x, "no year, whoever it is", x.claim(-1, 0, Integer.MIN_VALUE), -1);
             refused(x, "lowest", x.claim(0, 0, Integer.MIN_VALUE), -1);
             refused(x, "what first", x.claim(1, 2, 0), -1);
             due("dead", x.born(0, 2), 150);
