@@ -252,7 +252,11 @@ public final class EdgesOfTermsII {
                 holds("2=2", true), holds("2=3", false), holds("3=2", false),
                 holds("not 1=2", true), holds("not 1=1", false), holds("not not 1=1", true),
                 holds("not 1=1 or 1=1", true), holds("not (1=1 or 1=1)", false),
-                holds("not 1=2 and 1=2", false), holds("not (1=2 and 1=2)", true));
+                holds("not 1=2 and 1=2", false), holds("not (1=2 and 1=2)", true),
+                holds("not 1=1 and 1=1", false), holds("not (not 1=1)", true), holds("not (not 1=2)", false),
+                holds("2<1 and 1=1", false), holds("1>2 and 1=1", false), holds("1=2 and 1=1", false),
+                holds("not 2<1", true), holds("not 1>2", true), holds("not 1<2", false),
+                holds("not 2>1", false), holds("1<2 or 1/0=1", true), holds("2>1 or 1/0=1", true));
         Edges.sentence(II, "SUM: TERM {(\"+\" | \"-\") TERM}. TERM: PART {(\"*\" | \"/\") PART}", """
                 law looks + 1 -> fault 6
                 law looks -1 -> fault 6
@@ -391,7 +395,9 @@ public final class EdgesOfTermsII {
                 "looks(11, 0, 0) -> 9\nlooks(11, 0, 1) -> 9\nlooks(5, 0, 1) -> 3\nback(0)",
                 "rules looks age - 25; lets age - 26\nlooks(0, 31, 0) -> 9\nlooks(0, 6, 0) -> 1",
                 "looks(0, 7, 0) -> 2\nlooks(0, 7, 1) -> 1\nback(0)",
-                "rules looks year; lets year - 1\nlooks(0, 0, 0) -> 0\nlooks(0, 9, 0) -> 9\nlooks(0, 9, 1) -> 8");
+                "rules looks year; lets year - 1\nlooks(0, 8, 1) -> 7\nlooks(0, 0, 0) -> 0\nlooks(0, 9, 0) -> 9",
+                "looks(0, 9, 1) -> 8\nlooks(0, 5, 1) -> 4\nasks(0, 3, 0)\nlooks(0, 6, 1) -> 5\nback(0)",
+                "rules lets age-20 if painter=0-1 and claimant=0-1\nasks(0, 3, 0)\nstands(0, 3, 1)\nlooks(4, 5, 1) -> 5");
         Edges.sentence(II, "It is asked in a YEAR .. of a PAINTER (painter, price, age: the sitter's)", people,
                 "rules asks 100*painter + price + 5\nasks(0, 0, 0) -> 13\nasks(1, 0, 0) -> 114\nback(0)",
                 "rules asks age\nasks(0, 0, 0) -> 20\nasks(1, 99, 0) -> 119\nback(0)",

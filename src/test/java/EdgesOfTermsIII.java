@@ -283,6 +283,24 @@ public final class EdgesOfTermsIII {
                 plan(0, 3, 4) -> 2
                 plan(0, 3, 5) -> 2
                 """);
+        Edges.sentence(III, "LIKEST: .. each CELL by what it LOOKS in the YEAR",
+                "painter(2, 5)\npainter(5, 9)", """
+                rules looks cell; looks 9 if year=1 and cell=4; looks 0 if year=0
+                plan(0, 0, 0) -> 0
+                plan(0, 1, 0) -> 22
+                plan(0, 1, 3) -> 1
+                plan(0, 2, 0) -> 0
+                plan(0, 2, 1) -> 18
+                plan(0, 2, 3) -> 1
+                rules looks cell; lets 0 if cell<6; lets 4 if cell>5
+                plan(1, 1, 3) -> 1
+                rules looks cell; lets 0 if cell<3; lets 7 if cell>2
+                plan(1, 1, 3) -> 0
+                plan(1, 1, 0) -> 42
+                rules looks cell; lets 0 if cell<3; lets 6 if cell>2
+                plan(1, 1, 3) -> 1
+                plan(1, 1, 0) -> 18
+                """);
         Edges.sentence(III, "CHEAPEST: the least they ASK .., then the least UNLIKE, then the first",
                 "painter(1, 8)\npainter(1, 5)\npainter(2, 5)\npainter(2, 5)\nrules looks 5", """
                 plan(1, 1, 0) -> 36
@@ -327,6 +345,13 @@ public final class EdgesOfTermsIII {
                 plan(1, 2, 3) -> 0
                 rules looks 5; lets 3 if year=1 and cell=11
                 plan(1, 1, 3) -> 1
+                new
+                painter(1, 10)
+                painter(2, 20)
+                rules looks 5; lets 3 if year=1 and cell=0
+                plan(1, 1, 3) -> 1
+                rules looks 5; lets 3 if year=0
+                plan(1, 1, 3) -> 0
                 """);
     }
 
@@ -433,6 +458,10 @@ public final class EdgesOfTermsIII {
                 undoing(0) -> 0
                 undoing(1) -> 6
                 first(11, 0)
+                undoing(NONE) -> 3
+                first(0, 1)
+                undoing(NONE) -> 2
+                first(0, 0)
                 rules looks 0; looks 5 if year=2
                 undoing(NONE) -> 0
                 undoing(0) -> NONE
@@ -504,7 +533,10 @@ public final class EdgesOfTermsIII {
                 near(NONE) -> 8
                 burn()
                 near(NONE) -> 0
-                """);
+                copy()
+                """,
+                Edges.each(0, 11, "touch(0, #, 9)"),
+                "near(0) -> 12\nnear(NONE) -> 1\ncopy()\nnear(NONE) -> 2");
     }
 
     private static void tree() {
@@ -563,6 +595,57 @@ public final class EdgesOfTermsIII {
                 tree(3) -> 0
                 trees() -> 9
                 """);
+        Edges.sentence(III, "and LAYER 0 as its root: nothing is made from what was made of it", """
+                3 times copy()
+                touch(0, 0, 1)
+                touch(0, 1, 1)
+                touch(0, 2, 1)
+                touch(1, 0, 1)
+                touch(1, 1, 1)
+                touch(2, 0, 1)
+                tree(0) -> 3
+                tree(1) -> 1
+                tree(2) -> 2
+                tree(3) -> 100
+                trees() -> 1
+                touch(0, 1, 0)
+                touch(0, 2, 0)
+                touch(2, 1, 1)
+                touch(2, 2, 1)
+                tree(0) -> 3
+                tree(1) -> 100
+                tree(2) -> 0
+                tree(3) -> 1
+                touch(0, 1, 1)
+                touch(1, 1, 0)
+                touch(2, 3, 1)
+                tree(0) -> 4
+                tree(1) -> 1
+                tree(2) -> 100
+                tree(3) -> 0
+                """);
+        Edges.sentence(III, "and LAYER 0 as its root: also where three would go round",
+                "4 times copy()",
+                Edges.each(0, 3, "touch(#, 2, 1)\ntouch(#, 3, 1)\ntouch(#, 4, 1)\ntouch(#, 5, 1)"), """
+                touch(0, 0, 1)
+                touch(1, 0, 2)
+                touch(2, 0, 3)
+                touch(3, 0, 3)
+                touch(0, 1, 1)
+                touch(1, 1, 1)
+                touch(2, 1, 1)
+                tree(0) -> 8
+                tree(1) -> 1
+                tree(2) -> 2
+                tree(3) -> 3
+                tree(4) -> 100
+                trees() -> 3
+                """);
+        Edges.sentence(III, "the fewest CELLS changed in all: the most there can be",
+                "6 times copy()",
+                Edges.each(0, 11, "touch(0, #, 1)\ntouch(1, #, 2)\ntouch(2, #, 3)\ntouch(3, #, 4)\n"
+                        + "touch(4, #, 5)\ntouch(5, #, 6)"),
+                "tree(0) -> 72\ntrees() -> 16807\ntree(1) -> 100\ntree(6) -> 100");
         Edges.sentence(III, "in how many such ways",
                 Edges.each(0, 5, "copy() -> #"),
                 "trees() -> 16807\ntree(0) -> 0",

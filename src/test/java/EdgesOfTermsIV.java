@@ -248,6 +248,26 @@ public final class EdgesOfTermsIV {
                 force(NONE)
                 back(0)
                 """, ASKED);
+        Edges.sentence(IV, "IMAGES 0, 1 keep all: also who painted each LAYER", """
+                3 times painter(1, 0)
+                2 times paint(2)
+                image(0)
+                2 times scrape()
+                paint(0)
+                paint(1)
+                image(1)
+                back(0)
+                layer(1, 1) -> 2
+                layer(2, 1) -> 2
+                back(1)
+                layer(1, 1) -> 0
+                layer(2, 1) -> 1
+                back(0)
+                terms(4, 1)
+                paint(1)
+                scrape() -> 1
+                scrape() -> 2
+                """);
         Edges.sentence(IV, "IMAGES 0, 1 keep all: also that there was nothing", """
                 image(0)
                 """, MADE, """
