@@ -1,4 +1,5 @@
 import java.lang.reflect.Method;
+import java.lang.reflect.Modifier;
 import java.util.ArrayList;
 import java.util.HashMap;
 import java.util.List;
@@ -94,7 +95,7 @@ final class Edges {
     private static Map<String, Method> face() {
         Map<String, Method> face = new HashMap<>();
         for (Method one : AgingPortrait.class.getDeclaredMethods()) {
-            if (java.lang.reflect.Modifier.isPublic(one.getModifiers())) {
+            if (Modifier.isPublic(one.getModifiers())) {
                 face.put(one.getName(), one);
             }
         }
@@ -247,6 +248,7 @@ final class Edges {
         long answer;
         int code;
         Long place;
+        final boolean isRules;
 
         Step(String its) {
             line = its;
@@ -285,8 +287,6 @@ final class Edges {
             }
             isRules = word.equals("rules");
         }
-
-        final boolean isRules;
 
         private void wants(String due) {
             if (due.startsWith("fault ")) {
@@ -413,10 +413,12 @@ final class Edges {
 
         /** One look at what the object holds; some of them change it, so it is the last one. */
         List<String> probed(int probe) {
-            if (probe >= 6 && ask("back(" + probe % 2 + ")") != 0) {
+            // six looks at what is, then three of them at what each IMAGE keeps
+            boolean ofImage = probe >= 6;
+            if (ofImage && ask("back(" + probe % 2 + ")") != 0) {
                 return told;
             }
-            switch (probe >= 6 ? (probe - 6) / 2 : probe) {
+            switch (ofImage ? (probe - 6) / 2 : probe) {
                 case 0:
                     facts();
                     break;

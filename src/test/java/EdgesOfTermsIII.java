@@ -641,6 +641,13 @@ public final class EdgesOfTermsIII {
                 tree(4) -> 100
                 trees() -> 3
                 """);
+        Edges.sentence(III, "the first as a row of parents .. in how many such ways: against all rows there are",
+                treeOf("22/02/02", 2, 4, 1, 100, 1),
+                treeOf("21/11/20", 3, 1, 2, 0, 100),
+                treeOf("10/22/02/020/22", 3, 8, 100, 2, 100, 2, 1),
+                treeOf("121/22/00/22/210", 5, 24, 1, 100, 100, 1, 1),
+                treeOf("01/120/102/11/11/12", 5, 40, 100, 3, 100, 0, 3, 1),
+                treeOf("11/210/01/21/00/00", 3, 72, 1, 2, 100, 1, 100, 100));
         Edges.sentence(III, "the fewest CELLS changed in all: the most there can be",
                 "6 times copy()",
                 Edges.each(0, 11, "touch(0, #, 1)\ntouch(1, #, 2)\ntouch(2, #, 3)\ntouch(3, #, 4)\n"
@@ -654,6 +661,23 @@ public final class EdgesOfTermsIII {
                 Edges.each(0, 5, "touch(#, #, 1)"), "trees() -> 1\ntree(0) -> 6",
                 Edges.each(0, 5, "touch(#, #, 0)"), Edges.each(0, 5, "touch(#, 11, 1)"),
                 "trees() -> 7776\ntree(0) -> 1\ntree(1) -> 100\ntree(2) -> 0\ntree(6) -> 0");
+    }
+
+    /** COPIES by the TONES of their first CELLS (0 behind them), and what the TREE is then. */
+    private static String treeOf(String copies, int cells, int ways, int... parents) {
+        StringBuilder all = new StringBuilder("new\n");
+        String[] each = copies.split("/");
+        for (int copy = 0; copy < each.length; copy++) {
+            all.append("copy() -> ").append(copy).append('\n');
+            for (int cell = 0; cell < each[copy].length(); cell++) {
+                all.append("touch(" + copy + ", " + cell + ", " + each[copy].charAt(cell) + ")\n");
+            }
+        }
+        all.append("tree(0) -> ").append(cells).append('\n');
+        for (int i = 0; i < parents.length; i++) {
+            all.append("tree(" + (i + 1) + ") -> " + parents[i] + "\n");
+        }
+        return all.append("trees() -> ").append(ways).append('\n').toString();
     }
 
     private static void dated() {
