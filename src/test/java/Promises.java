@@ -120,6 +120,7 @@ public final class Promises {
     private static final class Laying {
         static void all() {
             newObject();
+            lastCalls();
             firsts();
             painters();
             terms();
@@ -142,6 +143,28 @@ public final class Promises {
             due("fault", x.fault(), NONE);
             due("stopped", x.stopped(), NONE);
             due("flakes", x.flakes(), 0);
+        }
+
+        /** The document speaks of 512 calls: the last ones answer as the first ones do. */
+        static void lastCalls() {
+            on(1);
+            AgingPortrait x = fresh();
+            for (int i = 1; i <= 510; i++) {
+                due("call " + i, x.first(i % 12, i % 10), i <= 12 ? 0 : (i - 12) % 10);
+            }
+            due("call 511", x.first(0, 7), 504 % 10);
+            due("call 512", x.tone(0, 0), 7);
+            AgingPortrait y = fresh();
+            y.image(0);
+            for (int i = 2; i <= 508; i += 4) {
+                y.feed(0x6c6f6f6b, 0x73203120, 0, 0, 0);
+                y.end(7);
+                due("a law, call " + (i + 2), y.law(), 0);
+                due("its image back, call " + (i + 3), y.back(0), 0);
+            }
+            due("laws, call 510", y.count(1), 0);
+            due("call 511", y.looks(0, 99, 0), 9);
+            due("call 512", y.status(), 0);
         }
 
         static void firsts() {
