@@ -37,18 +37,20 @@ public final class LanguageRules {
     }
 
     /** The public members are those of the document's code block, no more, no fewer. */
-    private static void face(String doc) {
+    private static void face(String doc) throws Exception {
         int from = doc.indexOf("```java");
         String block = doc.substring(from, doc.indexOf("```", from + 3));
+        constants(block);
         Set<String> due = new TreeSet<>();
         Matcher method = Pattern.compile("public (int|long) (\\w+)\\(([^)]*)\\)").matcher(block);
         while (method.find()) {
-            due.add(method.group(1) + " " + method.group(2) + numbers(method.group(3)));
+            due.add(method.group(1) + " " + method.group(2) + types(method.group(3)));
         }
         Set<String> got = new TreeSet<>();
         for (Method one : AgingPortrait.class.getDeclaredMethods()) {
-            if (Modifier.isPublic(one.getModifiers())) {
-                got.add(one.getReturnType() + " " + one.getName() + "/" + one.getParameterCount());
+            if (Modifier.isPublic(one.getModifiers()) && !Modifier.isStatic(one.getModifiers())) {
+                got.add(one.getReturnType() + " " + one.getName()
+                        + Arrays.toString(one.getParameterTypes()));
             } else if (!Modifier.isPrivate(one.getModifiers())) {
                 breach("rule 1: " + one);
             }
@@ -60,13 +62,35 @@ public final class LanguageRules {
         if (made.length != 1 || made[0].getParameterCount() != 0) {
             breach("constructors " + Arrays.toString(made));
         }
-        if (!Modifier.isFinal(AgingPortrait.class.getModifiers())) {
-            breach("rule 1: the class is not final");
+        int is = AgingPortrait.class.getModifiers();
+        if (!Modifier.isFinal(is) || !Modifier.isPublic(is) || made.length > 0
+                && !Modifier.isPublic(made[0].getModifiers())) {
+            breach("rule 1: the class is not public and final, or its constructor not public");
         }
     }
 
-    private static String numbers(String parameters) {
-        return "/" + (parameters.isBlank() ? 0 : parameters.split(",").length);
+    /** The types of "int a, int b" as a list: [int, int]. */
+    private static String types(String parameters) {
+        return "[" + parameters.strip().replaceAll(" +\\w+(?=,|$)", "") + "]";
+    }
+
+    /** The constants are there, as the document's code block tells them. */
+    private static void constants(String block) throws Exception {
+        Matcher constant = Pattern.compile("public static final int (\\w+) = (-?\\d+);").matcher(block);
+        int found = 0;
+        while (constant.find()) {
+            found++;
+            Field field = AgingPortrait.class.getDeclaredField(constant.group(1));
+            int is = field.getModifiers();
+            if (!Modifier.isPublic(is) || !Modifier.isStatic(is) || !Modifier.isFinal(is)
+                    || field.getType() != int.class
+                    || field.getInt(null) != Integer.parseInt(constant.group(2))) {
+                breach("the constant " + constant.group(1));
+            }
+        }
+        if (found != 2) {
+            breach("the document has " + found + " constants");
+        }
     }
 
     private static void members() {
